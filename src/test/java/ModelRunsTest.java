@@ -10,6 +10,7 @@ public final class ModelRunsTest {
     private final DropCode code;
     private final Model model;
     private final String run;
+    private int calls = 0;
 
     private ModelRunsTest(Check check, int k, int number) {
         this.check = check;
@@ -33,7 +34,8 @@ public final class ModelRunsTest {
         for (int i = 0; i < model.size(); i++) {
             put(i, random.nextInt());
         }
-        for (int call = model.size(); call < CALLS && check.allAsDue(); call++) {
+        // A receive is followed by two more calls.
+        while (calls + 3 <= CALLS && check.allAsDue()) {
             if (random.nextInt(4) == 0) {
                 receive(random.nextInt(), lieOneIn);
             } else {
@@ -79,10 +81,13 @@ public final class ModelRunsTest {
     private void forgetSeldom() {
         if (random.nextInt(12) == 0) {
             due("forget()", code.forget(), model.forget());
+        } else {
+            due("drops()", code.drops(), model.drops());
         }
     }
 
     private void due(String call, int got, int want) {
+        calls++;
         check.due(run + call, got, want);
     }
 }

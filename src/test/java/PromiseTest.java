@@ -24,6 +24,7 @@ public final class PromiseTest {
         promise12Count();
         promise13ClashOnComing();
         promise13ClashFromTheQueue();
+        promise13QueuedButOnce();
         promise14Forget();
         promise14ForgetKeepsTheRow();
         CHECK.end();
@@ -152,6 +153,8 @@ public final class PromiseTest {
             DropCode x = new DropCode(k);
             Model model = new Model(k);
             for (int n = 0; n < 3000; n++) {
+                // Nothing is promised after an object's 512th call, so a new one takes over in time.
+                x = n % 250 == 0 ? new DropCode(k) : x;
                 int seed = n * 1431655 + Integer.MIN_VALUE;
                 due("4: degree(" + seed + ") with k " + k, x.degree(seed), model.degree(seed));
                 due("5: set(" + seed + ") with k " + k, x.set(seed), model.set(seed));
@@ -334,6 +337,16 @@ public final class PromiseTest {
         due("13: clashes() from the queue", x.clashes(), 1);
         x.receive(Seeds.of(7, 3), 1);
         due("13: an old clash is not told again", x.clashes(), 1);
+    }
+
+    private static void promise13QueuedButOnce() {
+        DropCode x = new DropCode(7);
+        x.receive(Seeds.of(7, 0, 1), 1);
+        x.receive(Seeds.of(7, 0, 2), 1);
+        x.receive(Seeds.of(7, 0, 2), 2);
+        // Drops 1 and 2 are in the queue when word 1 becomes known, which they do not have.
+        due("13: 0 comes, 1 and 2 follow", x.receive(Seeds.of(7, 0), 0), 3);
+        due("13: drop 2 clashes once", x.clashes(), 1);
     }
 
     private static void promise14Forget() {
